@@ -92,6 +92,10 @@ final class BestTest {
         Check.same("bestOffset below 0", x.bestOffset(0), -15);
         x.turnMirror(1, -45);
         Check.same("bestOffset above 0", x.bestOffset(0), 15);
+        x.turnMirror(1, 31);
+        Check.same("bestOffset of -1", x.bestOffset(0), -1);
+        x.turnMirror(1, -31);
+        Check.same("bestOffset of 1", x.bestOffset(0), 1);
         x.turnMirror(1, 60);
         Check.same("bestOffset at the width", x.bestOffset(0), -30);
         x.turnMirror(1, 61);

@@ -70,6 +70,10 @@ final class LanguageTest {
         misfit("mirror a clarity 50 offset - ", ";");
         misfit("mirror a clarity 50 offset - ", "- 3;");
         misfit("mirror a clarity 50 offset ", "(3);");
+        misfit("mirror ", ";");
+        misfit("mirror a ", ";");
+        misfit("mirror a clarity ", ";");
+        misfit("mirror a clarity 50 ", ";");
         misfit("mirror a clarity 50 offset 3 ", "when seen;");
         misfit("mirror a ", "offset 3 clarity 50;");
     }
@@ -171,6 +175,9 @@ final class LanguageTest {
         misfit(A + "clean a when seen ", "seen;");
         misfit(A + "clean a when seen and ", "and seen;");
         misfit(A + "clean a when seen or ", ";");
+        misfit(A + "clean a when seen and ", ";");
+        misfit(A + "clean a when not ", ";");
+        misfit(A + "clean a when 1 < ", ";");
         misfit(A + "clean a when not ", "or seen;");
         misfit(A + "clean a when waits ", ";");
         misfit(A + "clean a when waits ", "seen;");
@@ -201,6 +208,13 @@ final class LanguageTest {
         misfit(A + "shake a by ", "+ 1;");
         misfit(A + "shake a by 1 + ", "+ 1;");
         misfit(A + "shake a by 1 * ", "/ 1;");
+        misfit(A + "shake a by 1 + ", ";");
+        misfit(A + "shake a by 1 * ", ";");
+        misfit(A + "shake a by - ", ";");
+        misfit(A + "shake a by min ", ";");
+        misfit(A + "shake a by min(", ";");
+        misfit(A + "shake a by min(1, ", ";");
+        misfit(A + "shake a by min(1, ", ");");
         misfit(A + "shake a by 1 ", "2;");
         misfit(A + "shake a by (", ");");
         misfit(A + "shake a by (1", ";");
@@ -244,6 +258,11 @@ final class LanguageTest {
         good(sum + "(((((((min(1, 2))))))));");
         misfit(sum + "((((((((min", "(1, 2)))))))));");
         misfit(sum + "((((((((max ", "(1, 2)))))))));");
+        good(sum + "min(-------1, -------1);");
+        misfit(sum + "min(-------", "-1, 2);");
+        misfit(sum + "min(1, -------", "-2);");
+        good(sum + "(((((min(min(1, 2), max(3, (4))))))));");
+        misfit(sum + "(((((min(min(1, 2), max(3, (", "(4)))))))));");
         good(sum + "1 - 1 - 1 - 1 - 1 - 1 - 1 - 1 - 1 - 1;");
         good(sum + "-1 + -1 + -1 + -1 + -1 + -1 + -1 + -1 + -1 + -1;");
         good(sum + "(1) + (1) + (1) + (1) + (1) + (1) + (1) + (1) + (1);");
@@ -415,5 +434,11 @@ final class LanguageTest {
         Check.same("teach of nothing", x.teach(), 0);
         Check.same("mirrors of nothing", x.mirrors(), 0);
         Check.same("digest of nothing", x.digest(), new PeriscopeTrain().digest());
+        // Of the same train told again, no order is left from the first time.
+        Check.tell(x, A + "shake a by 1; clean a when minute = 7;");
+        Check.tell(x, A + "shake a by 1; clean a when minute = 7;");
+        x.passMinutes(2);
+        Check.same("offsetOf of a train told twice", x.offsetOf(0), 5);
+        Check.same("orders of a train told twice", x.orders(), 2);
     }
 }

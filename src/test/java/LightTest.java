@@ -45,6 +45,16 @@ final class LightTest {
             Check.same("mirrorAt " + m, x.mirrorAt(m), m);
             Check.fails("isCovered " + m, x.isCovered(m));
         }
+        StringBuilder ten = new StringBuilder();
+        for (int m = 0; m < 10; m++) {
+            ten.append("mirror m").append(m).append(" clarity ").append(99 - m).append(" offset ").append(m).append(';');
+        }
+        x = Check.train(ten.toString());
+        Check.same("mirrors", x.mirrors(), 10);
+        for (int m = 0; m < 10; m++) {
+            Check.same("clarityOf " + m + " of ten", x.clarityOf(m), 99 - m);
+            Check.same("offsetOf " + m + " of ten", x.offsetOf(m), m);
+        }
     }
 
     private static void lightAlongTheRow() {
@@ -61,6 +71,10 @@ final class LightTest {
         Check.same("tiltAtEnd", x.tiltAtEnd(), -22);
         // 10000 * 33 / 100 * 33 / 100 * 33 / 100, cut each time: 3300, 1089, 359.
         x = Check.train("mirror a clarity 33 offset 0; mirror b clarity 33 offset 0; mirror c clarity 33 offset 0;");
+        Check.same("tiltAtEnd ahead of other questions", x.tiltAtEnd(), 0);
+        x.turnMirror(0, 5);
+        Check.same("tiltAtEnd behind a turn", x.tiltAtEnd(), 10);
+        x.turnMirror(0, 0);
         Check.same("lightAtEnd, cut", x.lightAtEnd(), 359);
         Check.same("lostAt, cut", x.lostAt(2), 730);
     }
@@ -179,6 +193,9 @@ final class LightTest {
         Check.same("lostAt 0", x.lostAt(0), 330);
         Check.same("tiltBehind 0", x.tiltBehind(0), 28);
         Check.same("lightAtEnd", x.lightAtEnd(), 1485);
+        x.moveMirror(1, 0);
+        Check.same("lightBehind behind a move", x.lightBehind(1), 5000);
+        Check.same("tiltBehind behind a move", x.tiltBehind(1), -50);
     }
 
     private static void wrongMirrors() {

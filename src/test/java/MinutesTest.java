@@ -104,6 +104,11 @@ final class MinutesTest {
         test("2 >= 2", true);
         test("1 >= 2", false);
         test("-1 < 1", true);
+        for (String holding : new String[] {"1 < 2", "2 > 1", "2 = 2", "1 <= 2", "2 >= 1", "seen", "waits b"}) {
+            test("not " + holding, false);
+            test(holding + " and seen", true);
+            test("not " + holding + " or 1 = 2", false);
+        }
         test("seen", true);
         test("not seen", false);
         test("not not seen", true);
@@ -325,6 +330,14 @@ final class MinutesTest {
         x.passMinutes(6);
         Check.same("minutesUntilDone, at work", x.minutesUntilDone(0), 2);
         Check.same("minutesUntilDone, behind", x.minutesUntilDone(2), 23);
+        PeriscopeTrain three = Check.train("mirror a clarity 0 offset 0; mirror b clarity 95 offset 0;"
+                + "mirror c clarity 45 offset 0;");
+        three.orderJob(2, 0);
+        three.orderJob(1, 0);
+        three.orderJob(0, 0);
+        Check.same("minutesUntilDone of c", three.minutesUntilDone(0), 6);
+        Check.same("minutesUntilDone of b", three.minutesUntilDone(1), 7);
+        Check.same("minutesUntilDone of a", three.minutesUntilDone(2), 18);
         doneAtTheLatest();
     }
 
