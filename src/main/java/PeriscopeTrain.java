@@ -115,12 +115,11 @@ public final class PeriscopeTrain {
             wrong = meaning.firstMistake();
             error = meaning.error;
         }
+        errorPosition = wrong < 0 ? -1 : tokens.positionOf(wrong);
         tape.length = 0;
         if (wrong >= 0) {
-            errorPosition = tokens.positionOf(wrong);
             return error;
         }
-        errorPosition = -1;
         plan.takeOver(draft, tokens);
         now.begin();
         return 0;

@@ -1,5 +1,8 @@
 /** Counts what is as due and what is not, and tells trains to the program. */
 final class Check {
+    static final Class<IndexOutOfBoundsException> OUT = IndexOutOfBoundsException.class;
+    static final Class<IllegalArgumentException> ARGUMENT = IllegalArgumentException.class;
+    static final Class<IllegalStateException> STATE = IllegalStateException.class;
     private static int passed = 0;
     private static int failed = 0;
 
@@ -73,6 +76,22 @@ final class Check {
         return x.teach();
     }
 
+    /** The two answer the same from now on, also as minutes go by, as jobs are cancelled, and as they are told. */
+    static void sameFromNowOn(String what, PeriscopeTrain x, PeriscopeTrain y) {
+        same("errorAt " + what, x.errorAt(), y.errorAt());
+        same("minutesUntilSeen " + what, x.minutesUntilSeen(), y.minutesUntilSeen());
+        for (int minute = 0; minute < 40; minute++) {
+            same("digest " + what + ", " + minute + " minutes later", x.digest(), y.digest());
+            same("passMinutes " + what + ", " + minute + " minutes later", x.passMinutes(1), y.passMinutes(1));
+            if (minute % 10 == 9 && x.jobs() > 0 && y.jobs() > 0) {
+                same("cancelJob " + what, x.cancelJob(0), y.cancelJob(0));
+            }
+        }
+        same("teach " + what, x.teach(), y.teach());
+        same("errorAt of that teach " + what, x.errorAt(), y.errorAt());
+        same("digest of that teach " + what, x.digest(), y.digest());
+    }
+
     static PeriscopeTrain train(String text) {
         PeriscopeTrain x = new PeriscopeTrain();
         same("teach() of " + text, tell(x, text), 0);
@@ -84,7 +103,14 @@ final class Check {
             passed++;
         } else {
             failed++;
-            System.out.println(otherwise);
+            System.out.println(testAtWork() + ": " + otherwise);
         }
+    }
+
+    /** The test that main called: its name tells the promise, or the part of "Terms", that it belongs to. */
+    private static String testAtWork() {
+        StackTraceElement[] calls = new Throwable().getStackTrace();
+        int test = Math.max(0, calls.length - 2);
+        return calls[test].getClassName() + "." + calls[test].getMethodName();
     }
 }
