@@ -576,7 +576,7 @@ public final class PeriscopeTrain {
         void readTape() {
             count = 0;
             int position = tape.skipBlanks(0);
-            while (position < tape.length && count < MAX_TOKENS) {
+            for (int i = 0; i < MAX_TOKENS && position < tape.length; i++) {
                 int next = readToken(position);
                 if (next <= position) {
                     add(BAD, position, position);
